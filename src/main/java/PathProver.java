@@ -263,8 +263,8 @@ public final class PathProver {
 
         private int scanWord(int ofKind) {
             long signs = 0;
-            while (behind < length && WORD.indexOf(sign(behind)) >= 0) {
-                signs = signs << 8 | sign(behind);
+            while (behind < length && WORD.indexOf((char) (bytes[behind] & 0xFF)) >= 0) {
+                signs = signs << 8 | bytes[behind] & 0xFF;
                 behind++;
             }
             word = signs;
@@ -367,16 +367,14 @@ public final class PathProver {
             functions = toFunctions;
         }
 
-        int predicateCell(int literal) {
-            return cells[position[literal]];
-        }
-
+        /** Tells whether two literals are of other signs and of the same predicate. */
         boolean opposed(int literal, int other) {
-            return negative[literal] != negative[other] && predicateCell(literal) == predicateCell(other);
+            return negative[literal] != negative[other] && cells[position[literal]] == cells[position[other]];
         }
 
+        /** Tells whether two literals are of the same sign and of the same predicate. */
         boolean alike(int literal, int other) {
-            return negative[literal] == negative[other] && predicateCell(literal) == predicateCell(other);
+            return negative[literal] == negative[other] && cells[position[literal]] == cells[position[other]];
         }
 
         boolean positive(int c) {
