@@ -245,18 +245,21 @@ public final class PathProver {
             }
             looked = true;
             start = behind;
-            while (start < length && BLANKS.indexOf(sign(start)) >= 0) {
+            while (start < length && BLANKS.indexOf((char) (bytes[start] & 0xFF)) >= 0) {
                 start++;
             }
             behind = start;
             if (start >= length) {
                 kind = END;
-            } else if (SMALL.indexOf(sign(start)) >= 0) {
+                return kind;
+            }
+            char sign = (char) (bytes[start] & 0xFF);
+            if (SMALL.indexOf(sign) >= 0) {
                 kind = scanWord(NAME);
-            } else if (LARGE.indexOf(sign(start)) >= 0) {
+            } else if (LARGE.indexOf(sign) >= 0) {
                 kind = scanWord(VARIABLE);
             } else {
-                kind = scanMark();
+                kind = scanMark(sign);
             }
             return kind;
         }
@@ -271,26 +274,22 @@ public final class PathProver {
             return behind - start > LONGEST ? WRONG : ofKind;
         }
 
-        private int scanMark() {
-            if (sign(start) == '=' && sign(start + 1) == '>') {
+        private int scanMark(char sign) {
+            int rest = length - start;
+            if (sign == '=' && rest > 1 && bytes[start + 1] == '>') {
                 behind = start + 2;
                 return IMPLIES;
             }
-            if (sign(start) == '<' && sign(start + 1) == '=' && sign(start + 2) == '>') {
+            if (sign == '<' && rest > 2 && bytes[start + 1] == '=' && bytes[start + 2] == '>') {
                 behind = start + 3;
                 return IFF;
             }
-            int which = SINGLE.indexOf(sign(start));
+            int which = SINGLE.indexOf(sign);
             if (which < 0) {
                 return WRONG;
             }
             behind = start + 1;
             return OPEN + which;
-        }
-
-        /** The byte at a place; 0, which no token has, behind the text. */
-        private char sign(int at) {
-            return at < length ? (char) (bytes[at] & 0xFF) : 0;
         }
     }
 

@@ -70,6 +70,7 @@ public final class DifferentialTest {
       note(same("read()", mine.read(), due.read()));
       same("place()", mine.place(), due.place());
       clauses();
+      moves();
       if (random.nextInt(4) > 0) {
         search(kind == 6 || kind == 7);
       }
