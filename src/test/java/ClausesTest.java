@@ -108,6 +108,11 @@ public final class ClausesTest {
     int made = c.x.read();
     c.due("read() of 3000 has no fault", made > 0 ? 1 : made, 1);
     c.fault(most + "&!X:!X:w.", 5, 0);
+    c.promise("3000 in what is made: a ! before all of it counts, too");
+    c.text(most + "&w(a).");
+    made = c.x.read();
+    c.due("read() of 3000 has no fault", made > 0 ? 1 : made, 1);
+    c.fault(most + "&w(Z).", 5, 0);
   }
 
   private static void wayClauses() {
