@@ -9,6 +9,7 @@ public final class ClausesTest {
     readSize();
     madeSize();
     wayClauses();
+    wayLiterals();
     allClauses();
     clauseSizes();
     c.end();
@@ -124,6 +125,24 @@ public final class ClausesTest {
     c.promise("600 clauses on the way, to the last one");
     c.read("p&p&(p&p)&" + joined("p", "&", 28) + "&" + five + ".", 33);
     c.fault("p&(p&p)&p&" + joined("p", "&", 28) + "&" + five + ".", 5, 0);
+  }
+
+  /** 64 clauses of 12 literals, and then & with an or of each of these lengths. */
+  private static String lengths(int... all) {
+    String four = "|((p&p)&(p&p))";
+    StringBuilder out = new StringBuilder("(" + joined("p", "|", 9) + four + four + four + ")");
+    for (int n : all) {
+      out.append("&(").append(joined("p", "|", n)).append(")");
+    }
+    return out.append(".").toString();
+  }
+
+  private static void wayLiterals() {
+    c.promise("6000 literals on the way");
+    // Both have 600 clauses on the way, and 70 at the end; the order of the last two makes one literal more.
+    c.read(lengths(1, 12, 4, 12, 1, 2), 70);
+    c.due("clause(69, 0)", c.x.clause(69, 0), 1);
+    c.fault(lengths(1, 12, 4, 12, 2, 1), 5, 0);
   }
 
   private static void allClauses() {
