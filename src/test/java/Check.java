@@ -54,6 +54,15 @@ final class Check {
     due("count(2) of " + text, x.count(2), 0);
   }
 
+  /** On a new object: no fault, whatever the clauses are. */
+  void accepted(String text) {
+    x = new PathProver();
+    text(text);
+    int made = x.read();
+    due("read() of " + text + " (how many are left open)", made < 0 ? made : 0, 0);
+    due("place() of " + text, x.place(), -1);
+  }
+
   /** On a new object: all its clauses, with a blank between them. */
   void clauses(String text, String want) {
     x = new PathProver();
