@@ -54,7 +54,7 @@ public final class PathProver {
         for (int i = 0; i < Text.ROOM && parser.next() != Text.END; i++) {
             int first = text.start;
             tree.begin();
-            int root = parser.chain(0);
+            int root = parser.formula();
             parser.want(Text.DOT);
             if (parser.fault != 0) {
                 break;
@@ -567,8 +567,12 @@ public final class PathProver {
             return true;
         }
 
+        int formula() {
+            return chain(0);
+        }
+
         /** A formula (level 0), an imp (1), an or (2), an and (3); its node. */
-        int chain(int level) {
+        private int chain(int level) {
             if (level >= SIGNS.length) {
                 return unary();
             }

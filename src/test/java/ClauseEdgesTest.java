@@ -26,12 +26,9 @@ public final class ClauseEdgesTest {
     asTwoMakesIt();
     cellsOfClause();
     behindTooLarge();
+    oftenTooLarge();
     written();
     c.end();
-  }
-
-  private static String joined(String part, String sign, int n) {
-    return (part + sign).repeat(n - 1) + part;
   }
 
   /** The first n variables, with this between. */
@@ -241,7 +238,7 @@ public final class ClauseEdgesTest {
     c.due("clear()", c.x.clear(), 100);
     c.read("p.", 1);
     c.promise("more than 100 clauses: nothing of that text comes");
-    c.read(joined("p", ".", 98) + ".", 98);
+    c.read(Texts.joined("p", ".", 98) + ".", 98);
     c.read("q. r. s.", -15);
     c.due("place()", c.x.place(), 6);
     c.due("count(0)", c.x.count(0), 98);
@@ -251,7 +248,7 @@ public final class ClauseEdgesTest {
 
   private static void clausesInAllWithThoseThatGo() {
     c.promise("100 clauses in all (with those that go by 5)");
-    c.read(joined("p", ".", 98) + ".", 98);
+    c.read(Texts.joined("p", ".", 98) + ".", 98);
     c.read("(p|~p)&(p|~p)&p.", -15);
     c.read("(p|~p)&(p|~p)&(p|~p).", -15);
     c.read("(p|~p)&(p|~p).", 98);
@@ -306,17 +303,17 @@ public final class ClauseEdgesTest {
     c.promise("more than 12 literals in a clause (before 5)");
     c.clauses("a|b|c|d|e|f|g|h|i|j|k|l.", "a|b|c|d|e|f|g|h|i|j|k|l");
     c.fault("a|b|c|d|e|f|g|h|i|j|k|l|m.", 5, 0);
-    c.clauses(joined("p", "|", 12) + ".", "p");
-    c.fault(joined("p", "|", 13) + ".", 5, 0);
-    c.clauses(joined("p", "|", 11) + "|~p.", "");
-    c.fault(joined("p", "|", 12) + "|~p.", 5, 0);
+    c.clauses(Texts.joined("p", "|", 12) + ".", "p");
+    c.fault(Texts.joined("p", "|", 13) + ".", 5, 0);
+    c.clauses(Texts.joined("p", "|", 11) + "|~p.", "");
+    c.fault(Texts.joined("p", "|", 12) + "|~p.", 5, 0);
     c.promise("13 literals in the first, the last, and one between");
-    c.fault("(" + joined("p", "|", 13) + ")&q&r.", 5, 0);
-    c.fault("q&(" + joined("p", "|", 13) + ")&r.", 5, 0);
-    c.fault("q&r&(" + joined("p", "|", 13) + ").", 5, 0);
-    c.clauses("(" + joined("p", "|", 12) + ")&q&(" + joined("r", "|", 12) + ").", "p q r");
-    c.fault("(q&" + joined("p", "|", 12) + ")|r.", 5, 0);
-    c.clauses("(q&(" + joined("p", "|", 11) + "))|r.", "q|r p|r");
+    c.fault("(" + Texts.joined("p", "|", 13) + ")&q&r.", 5, 0);
+    c.fault("q&(" + Texts.joined("p", "|", 13) + ")&r.", 5, 0);
+    c.fault("q&r&(" + Texts.joined("p", "|", 13) + ").", 5, 0);
+    c.clauses("(" + Texts.joined("p", "|", 12) + ")&q&(" + Texts.joined("r", "|", 12) + ").", "p q r");
+    c.fault("(q&" + Texts.joined("p", "|", 12) + ")|r.", 5, 0);
+    c.clauses("(q&(" + Texts.joined("p", "|", 11) + "))|r.", "q|r p|r");
   }
 
   private static void variablesBehindFive() {
@@ -343,48 +340,30 @@ public final class ClauseEdgesTest {
   private static void clausesOnTheWay() {
     c.promise("600 clauses on the way (of all A & B, A | B, atoms of the formula together)");
     // An & of n atoms makes n, and 2 + 3 + .. + n: 593 with 33 of them, 627 with 34.
-    c.read(joined("p", "&", 33) + ".", 33);
-    c.fault(joined("p", "&", 34) + ".", 5, 0);
+    c.read(Texts.joined("p", "&", 33) + ".", 33);
+    c.fault(Texts.joined("p", "&", 34) + ".", 5, 0);
     c.promise("600: ~ and ! make none");
-    c.read(joined("~!X:~p", "&", 33) + ".", 33);
+    c.read(Texts.joined("~!X:~p", "&", 33) + ".", 33);
     c.promise("600 exactly, and 601");
-    c.read(exactly(0), 33);
-    c.fault(exactly(1), 5, 0);
+    c.read(Texts.chain(false), 33);
+    c.fault(Texts.chain(true), 5, 0);
     c.promise("600 of each formula, not of the text");
-    c.read(exactly(0) + exactly(0), 66);
+    c.read(Texts.chain(false) + Texts.chain(false), 66);
     c.promise("600 by one |");
     // 10 and 54 in the first part, n and 2 + .. + n in the second, 10 n by the |: n = 9 makes 198, and all go by 5.
-    c.fault(TEN + "|(" + joined("p", "&", 30) + ").", 5, 0);
-    c.accepted(TEN + "|(" + joined("~p", "&", 9) + ").");
-  }
-
-  /** A left chain of & that makes 600 clauses on the way, and so many more (0 or 1). */
-  private static String exactly(int more) {
-    // p, p, (p&p), 28 times p, and an or of five: 43 in the parts, and 2 + 4 + 5 + .. + 33 in the chain.
-    String five = "(p|p|p|p|p)";
-    String begin = more == 0 ? "p&p&(p&p)&" : "p&(p&p)&p&";
-    return begin + joined("p", "&", 28) + "&" + five + ".";
+    c.fault(TEN + "|(" + Texts.joined("p", "&", 30) + ").", 5, 0);
+    c.accepted(TEN + "|(" + Texts.joined("~p", "&", 9) + ").");
   }
 
   private static void literalsOnTheWay() {
     c.promise("6000 literals on the way");
-    c.read(lengths(1, 12, 4, 12, 1, 2), 70);
-    c.fault(lengths(1, 12, 4, 12, 2, 1), 5, 0);
+    c.read(Texts.lengths(1, 12, 4, 12, 1, 2), 70);
+    c.fault(Texts.lengths(1, 12, 4, 12, 2, 1), 5, 0);
     c.due("the count of this test", literalsOf(1, 12, 4, 12, 1, 2), 6000);
     c.due("the count of this test", literalsOf(1, 12, 4, 12, 2, 1), 6001);
   }
 
-  /** 64 clauses of 12 literals, and then & with an or of each of these lengths. */
-  private static String lengths(int... all) {
-    String four = "|((p&p)&(p&p))";
-    StringBuilder out = new StringBuilder("(" + joined("p", "|", 9) + four + four + four + ")");
-    for (int n : all) {
-      out.append("&(").append(joined("p", "|", n)).append(")");
-    }
-    return out.append(".").toString();
-  }
-
-  /** What lengths() makes: each or of n atoms has n and 2 + 3 + .. + n literals. */
+  /** What Texts.lengths() makes: each or of n atoms has n and 2 + 3 + .. + n literals. */
   private static int literalsOf(int... all) {
     int sum = 9 + 44;
     // Each of the three has four atoms, two & of two, and one of four.
@@ -400,17 +379,12 @@ public final class ClauseEdgesTest {
     return sum;
   }
 
-  private static String atom25(String name) {
-    String five = "f(a,a,a,a,a)";
-    return name + "(" + joined(five, ",", 4) + ")";
-  }
-
   private static void asItIsRead() {
     c.promise("250 symbols and variables in atoms (each as often as it stands) of the formula as it is read");
-    String ten = joined(atom25("p"), "&", 10);
+    String ten = Texts.joined(Texts.atom25("p"), "&", 10);
     c.read(ten + ".", 10);
     c.fault(ten + "&r.", 5, 0);
-    String less = joined(atom25("p"), "&", 9) + "&p(f(a,a,a,a,a),f(a,a,a,a,a),f(a,a,a,a,a),g(a,a,a,a))";
+    String less = Texts.joined(Texts.atom25("p"), "&", 9) + "&p(f(a,a,a,a,a),f(a,a,a,a,a),f(a,a,a,a,a),g(a,a,a,a))";
     c.x = new PathProver();
     c.read(less + "&r.", 11);
     c.fault(less + "&q(X).", 5, 0);
@@ -419,17 +393,12 @@ public final class ClauseEdgesTest {
     c.x = new PathProver();
     c.read("!X:?Y:~" + ten.replace("&", "&~!X:") + ".", 10);
     c.promise("250 of each formula, not of the text");
-    c.read(ten + "." + joined(atom25("p"), "&", 2) + ".", 12);
+    c.read(ten + "." + Texts.joined(Texts.atom25("p"), "&", 2) + ".", 12);
   }
 
   private static void asTwoMakesIt() {
     c.promise("3000 of these, and ! and ?, in what 2 makes of it");
-    // 8 * (3 * 72 + 2 * 71) + 4 * 21 + 2 * 25 = 2998, since what stands in a <=> stands twice.
-    String ground = "f(a,a,a,a,a)";
-    String atom = "p(f(" + joined(ground, ",", 5) + ")," + ground + "," + ground + ",k(a,a,a),a)";
-    String x = "(" + joined("!X:".repeat(23) + atom, "|", 3) + ")";
-    String y = "(" + joined("!X:".repeat(22) + atom, "|", 2) + ")";
-    String most = "(((" + x + "<=>" + y + ")<=>" + "!X:".repeat(20) + "u)<=>" + "!X:".repeat(24) + "v)";
+    String most = Texts.heavy();
     c.accepted(most + "&w.");
     c.accepted(most + "&(w|~w).");
     c.fault(most + "&(w|w|w).", 5, 0);
@@ -443,27 +412,18 @@ public final class ClauseEdgesTest {
     c.fault(most + "&w(Z).", 5, 0);
   }
 
-  /** Eight literals of 25 each. */
-  private static String eight(String between) {
-    StringBuilder out = new StringBuilder(atom25("p0"));
-    for (int i = 1; i < 8; i++) {
-      out.append(between).append(atom25("p" + i));
-    }
-    return out.toString();
-  }
-
   private static void cellsOfClause() {
     c.promise("a clause with more than 200 of them");
-    c.read(eight("|") + ".", 1);
+    c.read(Texts.eight("|") + ".", 1);
     c.due("clause(0, 2)", c.x.clause(0, 2), 200);
-    c.fault(eight("|") + "|r.", 5, 0);
-    c.fault("r|" + eight("|") + ".", 5, 0);
-    c.fault("r&(" + eight("|") + "|q(X)).", 5, 0);
+    c.fault(Texts.eight("|") + "|r.", 5, 0);
+    c.fault("r|" + Texts.eight("|") + ".", 5, 0);
+    c.fault("r&(" + Texts.eight("|") + "|q(X)).", 5, 0);
     c.promise("200 in each clause, and more in the formula");
-    c.clauses(eight("&") + "&(q(X)|r).", eight(" ") + " q(X0)|r");
+    c.clauses(Texts.eight("&") + "&(q(X)|r).", Texts.eight(" ") + " q(X0)|r");
     c.promise("200: what goes by 5 is not in it");
-    c.clauses(joined(atom25("p"), "|", 10) + ".", atom25("p"));
-    c.clauses(eight("|") + "|r|~r.", "");
+    c.clauses(Texts.joined(Texts.atom25("p"), "|", 10) + ".", Texts.atom25("p"));
+    c.clauses(Texts.eight("|") + "|r|~r.", "");
     c.promise("200 with the arguments of functions of 3");
     String functions = "q0(Z,Z,Z,Z)|q1(Z,Z,Z,Z)|q2(Z,Z,Z,Z)|q3(Z,Z,Z,Z)|q4(Z,Z,Z,Z)|q5(Z,Z,Z,Z)|q6(Z,Z,Z,Z)|q7(Z,Z,Z";
     c.x = new PathProver();
@@ -481,14 +441,14 @@ public final class ClauseEdgesTest {
     c.read("?X:p(X).", 1);
     String ten = TEN.replace("p", "r");
     String[] all = {
-      joined("r", "|", 13) + ".",
+      Texts.joined("r", "|", 13) + ".",
       ten + "|" + ten + ".",
       "q(A,B,C,D,E)|q(F,G,H,I,J)|u(K).",
-      joined("r", "&", 34) + ".",
-      lengths(1, 12, 4, 12, 2, 1).replace("p", "r"),
-      joined(atom25("t"), "&", 10) + "&r.",
+      Texts.joined("r", "&", 34) + ".",
+      Texts.lengths(1, 12, 4, 12, 2, 1).replace("p", "r"),
+      Texts.joined(Texts.atom25("t"), "&", 10) + "&r.",
       "r<=>".repeat(12) + "r.",
-      eight("|") + "|r.",
+      Texts.eight("|") + "|r.",
       "!A:!B:!C:!D:!E:!F:?G:?H:(r|?I:r).",
       "!A:(r&?B:(r|!C:!D:!E:!F:!G:?H:r)).",
     };
@@ -504,6 +464,16 @@ public final class ClauseEdgesTest {
       c.read("?X:p(X).", 1);
       c.due("write(0)", c.clause(0), "p(s1)");
     }
+  }
+
+  private static void oftenTooLarge() {
+    c.promise("a text that is too large within many ! and ?, again and again");
+    c.text("!A:!B:?C:!D:!E:!F:!G:?H:r.");
+    for (int i = 0; i < 40; i++) {
+      c.due("read()", c.x.read(), -15);
+    }
+    c.read("!A:!B:!C:!D:?E:" + "!F:".repeat(24) + "p(E).", 1);
+    c.due("write(0)", c.clause(0), "p(s1(X0,X1,X2,X3))");
   }
 
   private static void written() {

@@ -76,18 +76,9 @@ public final class ClausesTest {
     c.clauses("p|(?X:q(X))|(?X:q(X)).", "p|q(s1)|q(s2)");
   }
 
-  private static String atom25(String name) {
-    String five = "f(a,a,a,a,a)";
-    return name + "(" + five + "," + five + "," + five + "," + five + ")";
-  }
-
-  private static String joined(String part, String sign, int n) {
-    return (part + sign).repeat(n - 1) + part;
-  }
-
   private static void readSize() {
     c.promise("250 symbols and variables are read");
-    String all = joined(atom25("p"), "&", 10);
+    String all = Texts.joined(Texts.atom25("p"), "&", 10);
     c.read(all + ".", 10);
     c.due("clause(0, 2)", c.x.clause(0, 2), 25);
     c.fault("r." + all + "&r.", 5, 2);
@@ -96,15 +87,7 @@ public final class ClausesTest {
 
   private static void madeSize() {
     c.promise("3000 in what is made");
-    // The same atom of 49 everywhere, and quantifiers that bind nothing; each <=> doubles:
-    // 8 * (3 * 72 + 2 * 71) + 4 * 21 + 2 * 25 = 2998, and w with what is around it.
-    String ground = "f(a,a,a,a,a)";
-    String atom = "p(f(" + joined(ground, ",", 5) + ")," + ground + "," + ground + ",k(a,a,a),a)";
-    String x = "(" + joined("!X:".repeat(23) + atom, "|", 3) + ")";
-    String y = "(" + joined("!X:".repeat(22) + atom, "|", 2) + ")";
-    String u = "!X:".repeat(20) + "u";
-    String v = "!X:".repeat(24) + "v";
-    String most = "(((" + x + "<=>" + y + ")<=>" + u + ")<=>" + v + ")";
+    String most = Texts.heavy();
     c.text(most + "&!X:w.");
     int made = c.x.read();
     c.due("read() of 3000 has no fault", made > 0 ? 1 : made, 1);
@@ -118,36 +101,24 @@ public final class ClausesTest {
 
   private static void wayClauses() {
     c.promise("600 clauses on the way");
-    c.read(joined("p", "&", 33) + ".", 33);
-    c.fault(joined("p", "&", 34) + ".", 5, 0);
-    String five = "(p|p|p|p|p)";
-    // 32 parts, the third one of two: 592 in all, and 8 more by the last one's five literals.
+    c.read(Texts.joined("p", "&", 33) + ".", 33);
+    c.fault(Texts.joined("p", "&", 34) + ".", 5, 0);
     c.promise("600 clauses on the way, to the last one");
-    c.read("p&p&(p&p)&" + joined("p", "&", 28) + "&" + five + ".", 33);
-    c.fault("p&(p&p)&p&" + joined("p", "&", 28) + "&" + five + ".", 5, 0);
-  }
-
-  /** 64 clauses of 12 literals, and then & with an or of each of these lengths. */
-  private static String lengths(int... all) {
-    String four = "|((p&p)&(p&p))";
-    StringBuilder out = new StringBuilder("(" + joined("p", "|", 9) + four + four + four + ")");
-    for (int n : all) {
-      out.append("&(").append(joined("p", "|", n)).append(")");
-    }
-    return out.append(".").toString();
+    c.read(Texts.chain(false), 33);
+    c.fault(Texts.chain(true), 5, 0);
   }
 
   private static void wayLiterals() {
     c.promise("6000 literals on the way");
     // Both have 600 clauses on the way, and 70 at the end; the order of the last two makes one literal more.
-    c.read(lengths(1, 12, 4, 12, 1, 2), 70);
+    c.read(Texts.lengths(1, 12, 4, 12, 1, 2), 70);
     c.due("clause(69, 0)", c.x.clause(69, 0), 1);
-    c.fault(lengths(1, 12, 4, 12, 2, 1), 5, 0);
+    c.fault(Texts.lengths(1, 12, 4, 12, 2, 1), 5, 0);
   }
 
   private static void allClauses() {
     c.promise("100 clauses in all");
-    String ten = "(" + joined("p", "&", 10) + ")";
+    String ten = "(" + Texts.joined("p", "&", 10) + ")";
     c.read(ten + "|" + ten + ".", 100);
     c.read("p.", -15);
     c.due("place()", c.x.place(), 0);
@@ -165,28 +136,25 @@ public final class ClausesTest {
 
   private static void clauseSizes() {
     c.promise("12 literals");
-    c.clauses(joined("p", "|", 12) + ".", "p");
-    c.fault(joined("p", "|", 13) + ".", 5, 0);
-    c.fault(joined("p", "|", 12) + "|~p.", 5, 0);
+    c.clauses(Texts.joined("p", "|", 12) + ".", "p");
+    c.fault(Texts.joined("p", "|", 13) + ".", 5, 0);
+    c.fault(Texts.joined("p", "|", 12) + "|~p.", 5, 0);
     c.promise("10 variables");
     c.clauses("p(A,B,C,D,E)|p(F,G,H,I,J).", "p(X0,X1,X2,X3,X4)|p(X5,X6,X7,X8,X9)");
     c.fault("p(A,B,C,D,E)|p(F,G,H,I,J)|q(K).", 5, 0);
     c.clauses("p(A,B,C,D,E)|p(F,G,H,I,J)|q(K)|~q(K).", "");
     c.clauses("p(A,B,C,D,E)&p(F,G,H,I,J)&q(K).", "p(X0,X1,X2,X3,X4) p(X0,X1,X2,X3,X4) q(X0)");
     c.promise("200 symbols and variables");
-    StringBuilder eight = new StringBuilder(atom25("p0"));
-    for (int i = 1; i < 8; i++) {
-      eight.append("|").append(atom25("p" + i));
-    }
+    String eight = Texts.eight("|");
     c.read(eight + ".", 1);
     c.due("clause(0, 2)", c.x.clause(0, 2), 200);
     c.due("clause(0, 0)", c.x.clause(0, 0), 8);
     c.fault(eight + "|r.", 5, 0);
     c.clauses(eight + "|r|~r.", "");
-    c.clauses(joined(atom25("p"), "|", 10) + ".", atom25("p"));
+    c.clauses(Texts.joined(Texts.atom25("p"), "|", 10) + ".", Texts.atom25("p"));
     c.promise("200 with arguments of functions");
-    String wide = joined("q(F,F,F,F)", "|", 1);
-    c.clauses("!A:!B:!C:!D:!E:?F:" + wide + ".", "q(" + joined("s1(X0,X1,X2,X3,X4)", ",", 4) + ")");
+    String wide = Texts.joined("q(F,F,F,F)", "|", 1);
+    c.clauses("!A:!B:!C:!D:!E:?F:" + wide + ".", "q(" + Texts.joined("s1(X0,X1,X2,X3,X4)", ",", 4) + ")");
     c.due("clause(0, 2)", c.x.clause(0, 2), 25);
     StringBuilder many = new StringBuilder();
     for (int i = 0; i < 8; i++) {

@@ -139,11 +139,8 @@ public final class FaultsTest {
 
   private static void symbols() {
     c.promise("60 symbols");
-    StringBuilder sixty = new StringBuilder();
-    for (int i = 0; i < 60; i++) {
-      sixty.append("n").append(i).append(".");
-    }
-    c.read(sixty.toString(), 60);
+    String sixty = Texts.predicates(60);
+    c.read(sixty, 60);
     c.due("count(1)", c.x.count(1), 60);
     c.read("n0|n1. n2(a).", -13);
     c.read("n0|n1. n2|more.", -15);

@@ -15,6 +15,7 @@ public final class SearchEdgesTest {
     starts();
     triedInOrder();
     takenBack();
+    pairs();
     sameNow();
     stepsToTheLast();
     mostSteps();
@@ -36,31 +37,14 @@ public final class SearchEdgesTest {
     c.end();
   }
 
-  private static String tower(String name, int n, String last) {
-    return (name + "(").repeat(n) + last + ")".repeat(n);
-  }
-
   private static String goal(int depth, String variable) {
-    return "grow(" + tower("f", depth, "a") + "," + variable + ")";
-  }
-
-  private static String tree(int depth) {
-    return depth == 0 ? "a" : "g(" + tree(depth - 1) + "," + tree(depth - 1) + ")";
-  }
-
-  /** A term without variables, of so many symbols. */
-  private static String ground(int size) {
-    if (size <= 6) {
-      return tower("f", size - 1, "a");
-    }
-    int first = (size - 1) / 2;
-    return "h(" + ground(first) + "," + ground(size - 1 - first) + ")";
+    return "grow(" + Texts.tower("f", depth, "a") + "," + variable + ")";
   }
 
   private static void pathAndLimit() {
     for (int n = 0; n <= 20; n++) {
       c.promise("EXTENSION, if its PATH has fewer literals than the LIMIT: " + n);
-      c.read("p(a). ~p(X)|p(f(X)). ~p(" + tower("f", n, "a") + ").", 3);
+      c.read("p(a). ~p(X)|p(f(X)). ~p(" + Texts.tower("f", n, "a") + ").", 3);
       // Each LIMIT that fails makes a START, and two tries of each goal.
       int before = n * (n + 1) + n;
       if (n > 0) {
@@ -170,6 +154,9 @@ public final class SearchEdgesTest {
     c.promise("it fails if the variable stands in that (with all that is bound)");
     c.read("q(X,X). ~q(Y,f(Y)).", 2);
     c.search(20, 100, 0, 2, 1);
+    c.promise("the first variable of a START stands in what it would be bound to");
+    c.read("q(f(X),X). ~q(Y,Y).", 2);
+    c.search(20, 100, 0, 2, 1);
     c.promise("it stands in what is bound deeper");
     c.read("t(X,Y,X). ~t(f(Z),g(Z),Z).", 2);
     c.search(20, 100, 0, 2, 1);
@@ -179,13 +166,70 @@ public final class SearchEdgesTest {
     c.due("show(1)", c.shown(1), "q(X0,X0)");
   }
 
+  /** On a new object: whether a fact and what denies it go together, in one try. */
+  private static void unifies(String fact, String denied, boolean good) {
+    c.x = new PathProver();
+    c.read(fact + ". ~" + denied + ".", 2);
+    c.search(1, 2, good ? 1 : 0, 2, 1);
+    c.x = new PathProver();
+    c.read(denied + ". ~" + fact + ".", 2);
+    c.search(1, 2, good ? 1 : 0, 2, 1);
+  }
+
+  private static void pairs() {
+    c.promise("what a variable is bound to counts for it");
+    unifies("q(a,b)", "q(Y,Y)", false);
+    unifies("q(a,a)", "q(Y,Y)", true);
+    unifies("q(f(a),f(b))", "q(f(Y),f(Y))", false);
+    unifies("q(f(a),f(a))", "q(f(Y),f(Y))", true);
+    unifies("t(X,X,b)", "t(Y,a,Y)", false);
+    unifies("t(X,X,a)", "t(Y,a,Y)", true);
+    unifies("q(X,f(X))", "q(g(Y),f(g(a)))", true);
+    unifies("q(X,f(X))", "q(g(Y),f(h(a)))", false);
+    c.promise("both are the same symbol, and their arguments are pairs; otherwise it fails");
+    unifies("q(a,a)", "q(a,a)", true);
+    unifies("q(a,a)", "q(a,b)", false);
+    unifies("q(a,a)", "q(b,a)", false);
+    unifies("q(f(a),a)", "q(a,a)", false);
+    unifies("q(f(a),a)", "q(g(a),a)", false);
+    unifies("q(f(a),a)", "q(f(b),a)", false);
+    unifies("q(k(a,X,c),X)", "q(k(a,b,Y),b)", true);
+    unifies("q(k(a,X,c),X)", "q(k(a,b,Y),c)", false);
+    unifies("r", "r", true);
+    c.promise("a variable that stands in that");
+    unifies("q(X,f(X))", "q(Y,Y)", false);
+    unifies("q(X,Y)", "q(f(Z),f(Z))", true);
+    unifies("t(X,Y,X)", "t(f(Z),Z,Z)", false);
+    unifies("t(X,Y,g(X,Y))", "t(Z,f(Z),Z)", false);
+  }
+
   private static void sameNow() {
     c.promise("if it is now the same as a literal of its PATH (with all that variables are bound to)");
     c.read("p(a). ~p(X)|e(X,Y)|p(Y). ~e(A,A).", 3);
     c.search(20, 100, 0, 2 + 3, 2);
-    c.promise("not the same: another sign, another predicate, another variable, another symbol");
-    c.read("p(X). ~p(X)|p(Y). ~p(a)|~p(b).", 3);
-    c.due("search", c.x.search(20, 1000), 1);
+    c.promise("not the same: a variable of another copy of the clause");
+    c.read("p(f(X)). p(f(B))|~p(A).", 2);
+    c.search(3, 100, -5, 2 + 3 + 4, 3);
+    c.promise("not the same: another variable; the same when they have changed twice");
+    c.read("q(X,Y). ~q(A,B)|q(B,A).", 2);
+    c.search(1, 100, -5, 2, 1);
+    c.search(20, 100, 0, 2 + 3, 2);
+    c.promise("not the same: another symbol");
+    c.read("p(a). ~p(a)|p(b). ~p(b)|p(a).", 3);
+    c.search(20, 100, 0, 3 + 5, 2);
+    c.promise("not the same: a variable and a symbol");
+    c.read("p(a). ~p(A)|p(B).", 2);
+    c.search(2, 100, -5, 2 + 3, 2);
+    c.promise("not the same: another sign");
+    c.read("p(a). ~p(X)|~p(b). p(b).", 3);
+    c.due("search", c.x.search(20, 100), 1);
+    c.due("proof", c.proof(), "0 2 -1 0 p(b); 1 1 0 0 p(b); 2 -1 0 1 ~p(b)");
+    c.promise("not the same: another predicate");
+    c.read("p(a). ~p(X)|q(X). ~q(X).", 3);
+    c.search(20, 100, 1, 2 + 3, 2);
+    c.promise("the same: the topmost of its PATH");
+    c.read("p. ~p|q. ~q|r. ~r|p.", 4);
+    c.search(20, 100, 0, 2 + 3 + 4, 3);
   }
 
   private static void stepsToTheLast() {
@@ -241,35 +285,35 @@ public final class SearchEdgesTest {
   private static void looksOfPairs() {
     // Five pairs, 3836 of the trees, one pair and n for P, and one pair that differs.
     c.promise("LOOKS: the 4000th is a pair");
-    afterFour("q(X,Y,Z,V,u(P,a))", "~q(A,B,C,D,u(" + ground(157) + ",b)).", 0);
+    afterFour("q(X,Y,Z,V,u(P,a))", "~q(A,B,C,D,u(" + Texts.ground(157) + ",b)).", 0);
     c.promise("LOOKS: the 4001st is a pair");
-    afterFour("q(X,Y,Z,V,u(P,a))", "~q(A,B,C,D,u(" + ground(158) + ",b)).", -7);
+    afterFour("q(X,Y,Z,V,u(P,a))", "~q(A,B,C,D,u(" + Texts.ground(158) + ",b)).", -7);
     c.promise("LOOKS: the 4000th is the last pair, and it unifies");
-    afterFour("q(X,Y,Z,V,u(P,a))", "~q(A,B,C,D,u(" + ground(157) + ",a)).", 1);
+    afterFour("q(X,Y,Z,V,u(P,a))", "~q(A,B,C,D,u(" + Texts.ground(157) + ",a)).", 1);
     c.promise("LOOKS: the 4001st is the last pair, and it would unify");
-    afterFour("q(X,Y,Z,V,u(P,a))", "~q(A,B,C,D,u(" + ground(158) + ",a)).", -7);
+    afterFour("q(X,Y,Z,V,u(P,a))", "~q(A,B,C,D,u(" + Texts.ground(158) + ",a)).", -7);
     c.promise("LOOKS: the 4000th is a symbol of what a variable is bound to");
-    afterFour("q(X,Y,Z,V,P)", "~q(A,B,C,D," + ground(159) + ").", 1);
+    afterFour("q(X,Y,Z,V,P)", "~q(A,B,C,D," + Texts.ground(159) + ").", 1);
     c.promise("LOOKS: the 4001st is a symbol of what a variable is bound to");
-    afterFour("q(X,Y,Z,V,P)", "~q(A,B,C,D," + ground(160) + ").", -7);
+    afterFour("q(X,Y,Z,V,P)", "~q(A,B,C,D," + Texts.ground(160) + ").", -7);
   }
 
   private static void looksUpToTheVariable() {
     // 3840 of the trees, the pairs of u, W with E and what it is bound to, k, n, and E itself.
     c.promise("LOOKS: up to that variable itself, the 4000th");
-    afterFour("q(X,Y,Z,V,u(W,W))", "~q(A,B,C,D,u(E,k(" + ground(154) + ",E))).", 0);
+    afterFour("q(X,Y,Z,V,u(W,W))", "~q(A,B,C,D,u(E,k(" + Texts.ground(154) + ",E))).", 0);
     c.promise("LOOKS: up to that variable itself, the 4001st");
-    afterFour("q(X,Y,Z,V,u(W,W))", "~q(A,B,C,D,u(E,k(" + ground(155) + ",E))).", -7);
+    afterFour("q(X,Y,Z,V,u(W,W))", "~q(A,B,C,D,u(E,k(" + Texts.ground(155) + ",E))).", -7);
     c.promise("LOOKS: what stands behind that variable is not looked at");
-    afterFour("q(X,Y,Z,V,u(W,W))", "~q(A,B,C,D,u(E,k(E," + ground(160) + "))).", 0);
+    afterFour("q(X,Y,Z,V,u(W,W))", "~q(A,B,C,D,u(E,k(E," + Texts.ground(160) + "))).", 0);
   }
 
   private static void looksOfEachTry() {
     c.promise("LOOKS of one TRY: the next one has its own 4000");
     c.read(FOUR + "q(X,Y,Z,V,u(P,a)).", 3);
-    c.read("~q(A,B,C,D,u(" + ground(157) + ",b)).", 4);
+    c.read("~q(A,B,C,D,u(" + Texts.ground(157) + ",b)).", 4);
     c.due("read() once more", c.x.read(), 5);
-    c.read("~q(A,B,C,D,u(" + ground(157) + ",a)).", 6);
+    c.read("~q(A,B,C,D,u(" + Texts.ground(157) + ",a)).", 6);
     c.due("search(11, 20000)", c.x.search(11, 20000), 1);
     c.due("the third one was taken", c.x.move(c.x.told(2) - 1, 1), 5);
   }
@@ -288,7 +332,7 @@ public final class SearchEdgesTest {
     for (int more = 0; more < 2; more++) {
       c.promise("LOOKS of a GOAL's PATH: the same with the 4000th, and " + more + " more");
       // 3 * 1023 + 511 of four trees, and 1 + 255 + 164 of the fifth term.
-      c.read(GROW + "~m(e(G," + ground(164 + more) + "),G). r(X,Y,Z,V,W).", 4);
+      c.read(GROW + "~m(e(G," + Texts.ground(164 + more) + "),G). r(X,Y,Z,V,W).", 4);
       c.read("~r(A,B,C,D,E)|" + goal(9, "A") + "|" + goal(9, "B") + "|" + goal(9, "C") + "|" + goal(8, "D") + "|"
           + goal(7, "F") + "|m(E,F)|r(B,A,C,D,E).", 5);
       c.due("search(10, 20000)", c.x.search(10, 20000), -5);
@@ -300,7 +344,7 @@ public final class SearchEdgesTest {
       // Each of two literals differs in the last pair: 1023 + 511 + 255 + 1 + 127 + 82 + 1, and one more of the lowest.
       String low = more == 0 ? "b" : "j(b)";
       String goal = more == 0 ? "d" : "j(d)";
-      c.read(GROW + "~k(" + ground(82) + "). r(X,Y,Z,i(V,W),a). ~r(A,B,C,D,a)|r(A,B,C,D," + low + ").", 5);
+      c.read(GROW + "~k(" + Texts.ground(82) + "). r(X,Y,Z,i(V,W),a). ~r(A,B,C,D,a)|r(A,B,C,D," + low + ").", 5);
       c.read("~r(A,B,C,i(D,E)," + low + ")|" + goal(9, "A") + "|" + goal(8, "B") + "|" + goal(7, "C") + "|"
           + goal(6, "D") + "|k(E)|r(A,B,C,i(D,E)," + goal + ").", 6);
       c.due("search(11, 20000)", c.x.search(11, 20000), -5);
@@ -313,7 +357,7 @@ public final class SearchEdgesTest {
     for (int more = 0; more < 2; more++) {
       c.promise("LOOKS: the same variable twice is its pair alone; 4000, and " + more + " more");
       // 3 * (1 + 1023) + (1 + 511) + 1 + (1 + 255) = 3841; then a pair of each of 158, and one look as P is bound.
-      String part = ground(158 + more);
+      String part = Texts.ground(158 + more);
       c.read(GROW + goal(9, "Y") + "|" + goal(8, "Z") + "|" + goal(7, "V") + "|q(Y,Y,Y,Z,u(V,"
           + part.replace("a", "P") + ")).", 3);
       c.read("~q(A,B,C,D,u(E," + part.replace("a", "F") + ")).", 4);
@@ -438,13 +482,13 @@ public final class SearchEdgesTest {
 
   private static void numbersShown() {
     c.promise("what is left of them as X and numbers from 0 on: of one, two and three figures");
-    c.read("v(X," + tower("f", 13, "a") + "). ~v(k(j(A,B,C,D,E),g(F,G,H),N),f(M))|v(N,M). ~v(Y,a).", 3);
+    c.read("v(X," + Texts.tower("f", 13, "a") + "). ~v(k(j(A,B,C,D,E),g(F,G,H),N),f(M))|v(N,M). ~v(Y,a).", 3);
     c.due("search(13, 20000)", c.x.search(13, 20000), -5);
     c.due("search(14, 20000)", c.x.search(14, 20000), 1);
     c.due("told(2)", c.x.told(2), 15);
-    c.due("show(0)", c.shown(0), "v(" + levels(0, 0) + "," + tower("f", 13, "a") + ")");
+    c.due("show(0)", c.shown(0), "v(" + levels(0, 0) + "," + Texts.tower("f", 13, "a") + ")");
     for (int k = 1; k <= 14; k++) {
-      c.due("show of " + k, c.shown(k), "v(" + levels(k - 1, 0) + "," + tower("f", 14 - k, "a") + ")");
+      c.due("show of " + k, c.shown(k), "v(" + levels(k - 1, 0) + "," + Texts.tower("f", 14 - k, "a") + ")");
     }
     c.promise("as they come first in it");
     c.read("t(X,Y,Z)|q(Z,Y). ~t(A,B,C). ~q(A,B).", 3);
@@ -452,6 +496,12 @@ public final class SearchEdgesTest {
     c.due("show(0)", c.shown(0), "t(X0,X1,X2)|q(X2,X1)");
     c.due("show(1)", c.shown(1), "t(X0,X1,X2)");
     c.due("show(2)", c.shown(2), "q(X0,X1)");
+    c.promise("as they come first in it, of variables that nothing was bound to");
+    c.read("q(f(X))|r(f(Y),f(X)). ~q(A). ~r(A,B).", 3);
+    c.search(1, 100, 1, 3, 1);
+    c.due("show(0)", c.shown(0), "q(f(X0))|r(f(X1),f(X0))");
+    c.due("show(2)", c.shown(2), "r(f(X0),f(X1))");
+    c.due("show(1)", c.shown(1), "q(f(X0))");
     c.promise("with all that its variables are bound to in the end");
     c.read("p(X)|q(X). ~p(Y). ~q(f(b)).", 3);
     c.search(1, 100, 1, 3, 1);
@@ -460,12 +510,12 @@ public final class SearchEdgesTest {
 
   private static void shownToTheLast() {
     // A START as it is shown: two trees, and a term of long names that fills what is left.
-    String trees = "grow(" + tower("f", 9, "a") + "," + tree(9) + ")|grow(" + tower("f", 8, "a") + "," + tree(8) + ")|r(";
+    String trees = "grow(" + Texts.tower("f", 9, "a") + "," + Texts.tree(9) + ")|grow(" + Texts.tower("f", 8, "a") + "," + Texts.tree(8) + ")|r(";
     for (int more = 0; more < 2; more++) {
       c.promise("-4 they are more than 4000, by " + more);
       int rest = 4000 + more - trees.length() - 1;
       int names = (rest - 4) / 10;
-      String pad = "f(" + tower("nnnnnnnn", names, "a".repeat(rest - 10 * names - 3)) + ")";
+      String pad = "f(" + Texts.tower("nnnnnnnn", names, "a".repeat(rest - 10 * names - 3)) + ")";
       c.read(GROW + goal(9, "X") + "|" + goal(8, "Y") + "|r(" + pad + "). ~r(P).", 4);
       c.due("search", c.x.search(10, 20000), 1);
       c.due("write(3)", c.clause(3), "~r(X0)");
@@ -473,7 +523,7 @@ public final class SearchEdgesTest {
       c.due("octets", c.octets(more == 0 ? 4000 : 6), more == 0 ? trees + pad + ")" : "~r(X0)");
       int last = c.x.told(2) - 1;
       c.due("show of the last", c.shown(last), "r(" + pad + ")");
-      c.due("show(1)", c.shown(1), "grow(" + tower("f", 9, "a") + "," + tree(9) + ")");
+      c.due("show(1)", c.shown(1), "grow(" + Texts.tower("f", 9, "a") + "," + Texts.tree(9) + ")");
       c.due("write(1)", c.clause(1), "~grow(a,a)");
     }
     c.promise("far more than 4000, and then less again");

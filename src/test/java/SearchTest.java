@@ -106,21 +106,12 @@ public final class SearchTest {
     c.search(3, 100, 0, 2, 1);
   }
 
-  private static String tower(String name, int n, String last) {
-    return (name + "(").repeat(n) + last + ")".repeat(n);
-  }
-
-  /** A tree of g with 2 ^ (depth + 1) - 1 symbols. */
-  private static String tree(int depth) {
-    return depth == 0 ? "a" : "g(" + tree(depth - 1) + "," + tree(depth - 1) + ")";
-  }
-
   private static void looksOfTry() {
     // Trees of 2047, 1023, 511 and 255 symbols, each bound to a variable: 3840 looks and those of the last pair.
     for (int more = 0; more < 2; more++) {
       c.promise("4000 looks of a try, and " + more + " more");
-      String last = "h(" + tree(6) + "," + (more == 0 ? tree(4) : "f(" + tree(4) + ")") + ")";
-      c.read("p(" + tower("f", 10, "a") + ",a,a,a,a). ~p(a,X,Y,Z,V)|q(X,Y,Z,V," + last + ").", 2);
+      String last = "h(" + Texts.tree(6) + "," + (more == 0 ? Texts.tree(4) : "f(" + Texts.tree(4) + ")") + ")";
+      c.read("p(" + Texts.tower("f", 10, "a") + ",a,a,a,a). ~p(a,X,Y,Z,V)|q(X,Y,Z,V," + last + ").", 2);
       c.read(SHIFT + "~q(A,B,C,D,E).", 4);
       c.due("search", c.x.search(11, 20000), -5);
       c.due("search", c.x.search(12, 20000), more == 0 ? 1 : -7);
@@ -133,10 +124,10 @@ public final class SearchTest {
     // Three literals that are the same up to their last symbol: two times 1916 + 1 + 82 looks, and those that differ.
     for (int more = 0; more < 2; more++) {
       c.promise("4000 looks of a path, and " + more + " more");
-      String same = "h(" + tree(5) + "," + tower("f", 17, "a") + ")";
+      String same = "h(" + Texts.tree(5) + "," + Texts.tower("f", 17, "a") + ")";
       String first = more == 0 ? "b" : "f(b)";
       String third = more == 0 ? "d" : "f(d)";
-      c.read("p(" + tower("f", 9, "a") + ",a,a,a,a)." + SHIFT, 2);
+      c.read("p(" + Texts.tower("f", 9, "a") + ",a,a,a,a)." + SHIFT, 2);
       c.read("~p(a,X,Y,Z,V)|r(X,Y,Z,V,u(" + same + "," + first + ")).", 3);
       c.read("~r(X,Y,Z,V,u(A," + first + "))|r(X,Y,Z,V,u(A,c)).", 4);
       c.read("~r(X,Y,Z,V,u(A,c))|r(X,Y,Z,V,u(A," + third + ")). ~r(X,Y,Z,V,u(A," + third + ")).", 6);
@@ -183,8 +174,8 @@ public final class SearchTest {
     // r( 2556 , 1276 , 163 )
     for (int more = 0; more < 2; more++) {
       c.promise("4000 bytes are shown, and " + more + " more");
-      String padding = tower("nnnnnnnn", 16, more == 0 ? "aaa" : "aaaa");
-      c.read("p(" + tower("f", 9, "a") + ",a,a,a,a). ~p(a,X,Y,Z,V)|r(X,Y," + padding + "). ~r(X,Y,Z).", 3);
+      String padding = Texts.tower("nnnnnnnn", 16, more == 0 ? "aaa" : "aaaa");
+      c.read("p(" + Texts.tower("f", 9, "a") + ",a,a,a,a). ~p(a,X,Y,Z,V)|r(X,Y," + padding + "). ~r(X,Y,Z).", 3);
       c.read(SHIFT, 4);
       c.due("search", c.x.search(12, 20000), 1);
       c.due("told(2)", c.x.told(2), 12);
@@ -195,7 +186,7 @@ public final class SearchTest {
       c.due("octet(4000)", c.x.octet(4000), -1);
       c.due("octet(11)", c.x.octet(11), more == 0 ? '(' : ')');
       if (more == 0) {
-        c.due("octets", c.octets(4000), "r(" + tree(9) + "," + tree(8) + "," + padding + ")");
+        c.due("octets", c.octets(4000), "r(" + Texts.tree(9) + "," + Texts.tree(8) + "," + padding + ")");
       }
     }
   }

@@ -200,6 +200,12 @@ public final class TextEdgesTest {
     c.fault("p=<q.", 1, 1);
     c.fault("p==>q.", 1, 1);
     c.fault("p>q.", 1, 1);
+    c.fault("p>>q.", 1, 1);
+    c.fault("p~>q.", 2, 1);
+    c.fault("p&>q.", 1, 2);
+    c.fault("p<~>q.", 1, 1);
+    c.fault("p<>q.", 1, 1);
+    c.fault("p<==q.", 1, 1);
     c.fault("p=>>q.", 1, 3);
     c.fault("p=>=>q.", 2, 3);
     c.fault("p=><=>q.", 2, 3);
@@ -347,6 +353,10 @@ public final class TextEdgesTest {
     c.fault("(".repeat(29) + "!X:p(a)" + ")".repeat(29) + ".", 6, 29 + 4);
     c.fault("(".repeat(29) + "?X:~p" + ")".repeat(29) + ".", 6, 29 + 3);
     c.fault("(".repeat(28) + "p=>~p(a)" + ")".repeat(28) + ".", 6, 28 + 5);
+    c.promise("6: & and | are never open, and close nothing");
+    c.fault("p&q&r&" + "(".repeat(31), 6, 36);
+    c.fault("p|q|r|" + "(".repeat(31), 6, 36);
+    c.accepted("p&q|r&" + "(".repeat(30) + "p&q|r&p" + ")".repeat(30) + ".");
     c.promise("6: more than 30 of a sign, one behind the other");
     for (String one : new String[] {"~p", "(p)", "p(a)", "!X:p(X)", "?X:p(X)"}) {
       c.x = new PathProver();
@@ -464,18 +474,9 @@ public final class TextEdgesTest {
     c.fault(thirteen + "." + thirteen + ".", 5, 0);
   }
 
-  /** The names a, b, .. of so many predicates, each a formula. */
-  private static String predicates(int n) {
-    StringBuilder out = new StringBuilder();
-    for (int i = 0; i < n; i++) {
-      out.append("n").append(i).append('.');
-    }
-    return out.toString();
-  }
-
   private static void sixtySymbols() {
     c.promise("60 at most: 5 for the formula with one more");
-    String all = predicates(60);
+    String all = Texts.predicates(60);
     c.read(all, 60);
     c.due("count(1)", c.x.count(1), 60);
     c.read("n0|~n59|n30.", 61);
@@ -491,21 +492,21 @@ public final class TextEdgesTest {
     c.read("~n59.", 62);
     c.due("clear()", c.x.clear(), 62);
     c.due("count(1)", c.x.count(1), 0);
-    c.read(predicates(60).replace('n', 'm'), 60);
+    c.read(Texts.predicates(60).replace('n', 'm'), 60);
     c.due("count(1)", c.x.count(1), 60);
     c.promise("60 at most: in one text");
     c.fault(all + "x.", 5, all.length());
     c.fault(all + " n0|x. $", 5, all.length() + 1);
     c.fault(all + "n0|x", 2, all.length() + 4);
     c.promise("60 at most: the 60th in another text");
-    c.read(predicates(59), 59);
+    c.read(Texts.predicates(59), 59);
     c.read("x|y.", -15);
     c.due("count(1)", c.x.count(1), 59);
     c.read("x.", 60);
     c.due("count(1)", c.x.count(1), 60);
     c.read("y.", -15);
     c.promise("60 at most: names of clauses that go are symbols, too");
-    c.read(predicates(59), 59);
+    c.read(Texts.predicates(59), 59);
     c.read("x|~x.", 59);
     c.due("count(1)", c.x.count(1), 60);
     c.read("y|~y.", -15);
@@ -540,7 +541,7 @@ public final class TextEdgesTest {
     }
     many.append('.');
     c.fault(many.toString(), 5, 0);
-    c.read(predicates(60), 60);
+    c.read(Texts.predicates(60), 60);
     c.read(many.toString(), -15);
     c.due("place()", c.x.place(), 0);
     c.due("count(0)", c.x.count(0), 60);
@@ -562,7 +563,7 @@ public final class TextEdgesTest {
 
   private static void functionsAreNoSymbols() {
     c.promise("functions of 3 are not among the SYMBOLS above");
-    c.read(predicates(58) + "p(a).", 59);
+    c.read(Texts.predicates(58) + "p(a).", 59);
     c.due("count(1)", c.x.count(1), 60);
     c.read("?X:p(X). !Y:?X:(p(X)|p(Y)).", 61);
     c.due("count(1)", c.x.count(1), 60);
