@@ -347,6 +347,8 @@ public final class ClauseEdgesTest {
     c.promise("600 exactly, and 601");
     c.read(Texts.chain(false), 33);
     c.fault(Texts.chain(true), 5, 0);
+    c.promise("600 exactly, and one atom more");
+    c.fault(Texts.chain(false).replace(".", "&p."), 5, 0);
     c.promise("600 of each formula, not of the text");
     c.read(Texts.chain(false) + Texts.chain(false), 66);
     c.promise("600 by one |");
@@ -359,6 +361,7 @@ public final class ClauseEdgesTest {
     c.promise("6000 literals on the way");
     c.read(Texts.lengths(1, 12, 4, 12, 1, 2), 70);
     c.fault(Texts.lengths(1, 12, 4, 12, 2, 1), 5, 0);
+    c.fault(Texts.lengths(1, 12, 4, 12, 1, 2).replace(".", "&p."), 5, 0);
     c.due("the count of this test", literalsOf(1, 12, 4, 12, 1, 2), 6000);
     c.due("the count of this test", literalsOf(1, 12, 4, 12, 2, 1), 6001);
   }
